@@ -256,20 +256,30 @@ final class Reference {
         }
         int sum = 0;
         for (Net net : nets) {
-            List<int[]> points = new ArrayList<>();
-            points.add(net.source < 10 ? new int[] {where[net.source] / 4, where[net.source] % 4}
-                    : new int[] {net.source - 10, 0});
+            boolean[] rows = new boolean[4];
+            boolean[] columns = new boolean[4];
+            int source = net.source < 10 ? where[net.source] : 4 * (net.source - 10);
+            rows[source / 4] = true;
+            columns[source % 4] = true;
             for (int[] sink : net.sinks) {
-                points.add(sink[0] == NONE ? new int[] {sink[1], 3}
-                        : new int[] {where[sink[0]] / 4, where[sink[0]] % 4});
+                rows[sink[0] == NONE ? sink[1] : where[sink[0]] / 4] = true;
+                columns[sink[0] == NONE ? 3 : where[sink[0]] % 4] = true;
             }
-            for (int axis = 0; axis < 2; axis++) {
-                int axisNow = axis;
-                sum += points.stream().mapToInt(p -> p[axisNow]).max().getAsInt()
-                        - points.stream().mapToInt(p -> p[axisNow]).min().getAsInt();
-            }
+            sum += extent(rows) + extent(columns);
         }
         return sum;
+    }
+
+    private static int extent(boolean[] taken) {
+        int first = 0;
+        int last = 3;
+        while (!taken[first]) {
+            first++;
+        }
+        while (!taken[last]) {
+            last--;
+        }
+        return last - first;
     }
 
     private int[] place(List<Net> nets) {
