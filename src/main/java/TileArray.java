@@ -218,14 +218,19 @@ public final class TileArray {
 
         private final int[] beforeChannel;
         private final int[] beforePin;
+        /** The channels that can be switched to a wire: to an outlet all those of its tile. */
+        private final int[] after;
+        private final int[] afterCount;
 
         Fabric() {
             beforeChannel = new int[FIRST_INPUT_WIRE * CHANNEL_SETTINGS];
             beforePin = new int[TILES * PIN_SETTINGS];
+            after = new int[WIRES * TILE_CHANNELS];
+            afterCount = new int[WIRES];
             Arrays.fill(beforeChannel, NONE);
             Arrays.fill(beforePin, NONE);
             for (int tile = 0; tile < TILES; tile++) {
-                laySwitches(beforeChannel, beforePin, tile);
+                laySwitches(tile);
             }
         }
 
@@ -238,7 +243,7 @@ public final class TileArray {
         }
 
         static int channelOf(int tile, int direction, int track) {
-            return outletOf(tile) + 1 + direction * TRACKS + track;
+            return tile * TILE_WIRES + 1 + direction * TRACKS + track;
         }
 
         static int outputWire(int o) {
@@ -258,23 +263,37 @@ public final class TileArray {
             return there ? beforePin[tile * PIN_SETTINGS + setting] : NONE;
         }
 
-        private static void laySwitches(int[] ofChannels, int[] ofPins, int tile) {
-            ofPins[tile * PIN_SETTINGS + FROM_OUTLET] = outletOf(tile);
+        /** The channel with this number, 0 the first, that can be switched to a wire; or NONE. */
+        int channelAfter(int wire, int number) {
+            boolean there = wire >= 0 && wire < WIRES && number >= 0;
+            return there && number < afterCount[wire] ? after[wire * TILE_CHANNELS + number] : NONE;
+        }
+
+        private void laySwitches(int tile) {
+            beforePin[tile * PIN_SETTINGS + FROM_OUTLET] = outletOf(tile);
             for (int direction = 0; direction < DIRECTIONS; direction++) {
                 for (int track = 0; track < TRACKS; track++) {
                     int around = FROM_AROUND + direction * TRACKS + track;
-                    ofPins[tile * PIN_SETTINGS + around] = wireInto(tile, direction, track);
-                    layChannel(ofChannels, tile, direction, track);
+                    beforePin[tile * PIN_SETTINGS + around] = wireInto(tile, direction, track);
+                    layChannel(tile, direction, track);
                 }
             }
         }
 
-        private static void layChannel(int[] ofChannels, int tile, int direction, int track) {
-            int first = channelOf(tile, direction, track) * CHANNEL_SETTINGS;
-            ofChannels[first + FROM_OUTLET] = outletOf(tile);
+        private void layChannel(int tile, int direction, int track) {
+            int channel = channelOf(tile, direction, track);
+            laySwitch(channel, FROM_OUTLET, outletOf(tile));
             for (int turn = 1; turn < DIRECTIONS; turn++) {
                 int from = (direction + turn) % DIRECTIONS;
-                ofChannels[first + FROM_OUTLET + turn] = wireInto(tile, from, track);
+                laySwitch(channel, FROM_OUTLET + turn, wireInto(tile, from, track));
+            }
+        }
+
+        private void laySwitch(int channel, int setting, int before) {
+            beforeChannel[channel * CHANNEL_SETTINGS + setting] = before;
+            if (before != NONE && afterCount[before] < TILE_CHANNELS) {
+                after[before * TILE_CHANNELS + afterCount[before]] = channel;
+                afterCount[before]++;
             }
         }
 
@@ -636,15 +655,54 @@ public final class TileArray {
         }
     }
 
+    /** Wires that wait, each but once, the first that came the first to go. */
+    private static final class WireQueue {
+        private final int[] row;
+        private final boolean[] waits;
+        private int first;
+        private int size;
+
+        WireQueue() {
+            row = new int[WIRES];
+            waits = new boolean[WIRES];
+        }
+
+        boolean isEmpty() {
+            return size == 0;
+        }
+
+        void add(int wire) {
+            if (wire < 0 || wire >= WIRES || waits[wire] || size >= WIRES) {
+                return;
+            }
+            waits[wire] = true;
+            row[(first + size) % WIRES] = wire;
+            size++;
+        }
+
+        int take() {
+            if (size == 0) {
+                return NONE;
+            }
+            int wire = row[first];
+            waits[wire] = false;
+            first = (first + 1) % WIRES;
+            size--;
+            return wire;
+        }
+    }
+
     /** The ways of all nets, in the building that is being made. */
     private static final class Routing {
         private static final int MOST_ROUNDS = 12;
         private static final int PRICE_OF_SHARING = 3;
         private static final int FAR = 1 << 20;
+        private static final int MOST_STEPS = 1000000;
 
         private final Fabric fabric;
         private final Nets nets;
         private final Placing placing;
+        private final WireQueue queue;
         private final int[] users;
         private final int[] history;
         private final int[] price;
@@ -657,6 +715,7 @@ public final class TileArray {
             this.fabric = fabric;
             this.nets = nets;
             this.placing = placing;
+            queue = new WireQueue();
             users = new int[WIRES];
             history = new int[WIRES];
             price = new int[WIRES];
@@ -757,34 +816,29 @@ public final class TileArray {
             // Distances from the smaller tree may stay: a tree that grows only shortens them.
             for (int wire = 0; wire < WIRES; wire++) {
                 if (inTree[wire]) {
-                    distance[wire] = 0;
+                    shorten(wire, 0);
                 }
             }
-            boolean shorter = true;
-            for (int sweep = 0; sweep < WIRES && shorter; sweep++) {
-                shorter = false;
-                for (int wire = 0; wire < FIRST_INPUT_WIRE; wire++) {
-                    if (shorten(wire)) {
-                        shorter = true;
-                    }
-                }
+            for (int step = 0; step < MOST_STEPS && !queue.isEmpty(); step++) {
+                spreadFrom(queue.take());
             }
         }
 
-        private boolean shorten(int wire) {
-            int least = distance[wire] - price[wire];
-            boolean shorter = false;
-            for (int setting = FROM_OUTLET; setting < CHANNEL_SETTINGS; setting++) {
-                int before = fabric.beforeChannel(wire, setting);
-                if (before != NONE && distance[before] < least) {
-                    least = distance[before];
-                    shorter = true;
+        private void spreadFrom(int wire) {
+            for (int number = 0; number < TILE_CHANNELS; number++) {
+                int channel = fabric.channelAfter(wire, number);
+                if (channel == NONE) {
+                    break;
                 }
+                shorten(channel, distance[wire] + price[channel]);
             }
-            if (shorter) {
-                distance[wire] = least + price[wire];
+        }
+
+        private void shorten(int wire, int shorter) {
+            if (shorter < distance[wire]) {
+                distance[wire] = shorter;
+                queue.add(wire);
             }
-            return shorter;
         }
 
         /** The last wire on the way to a sink: its own, or the one that a pin is switched to. */

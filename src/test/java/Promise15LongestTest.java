@@ -26,6 +26,10 @@ public final class Promise15LongestTest {
         due.is("longest(): the greater of two outputs", x.longest(), 1.5);
         x.load(4, Due.pin(0, Due.from(Due.WEST)));
         due.is("longest(): a table that leads nowhere", x.longest(), 1.5);
+        x.load(4, Due.channel(Due.EAST, 1));
+        x.load(5, Due.pin(0, Due.from(Due.WEST)) | Due.channel(Due.EAST, 3));
+        x.load(6, Due.pin(0, Due.from(Due.WEST)));
+        due.is("longest(): a later table that leads nowhere", x.longest(), 1.5);
     }
 
     private static void registers(Due due) {
