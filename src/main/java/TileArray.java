@@ -1075,19 +1075,21 @@ public final class TileArray {
 
     /** When the outlets, pins and outputs of the array are there. */
     private static final class Timing {
-        private static final double OF_REGISTER = 0.5;
-        private static final double OF_TABLE = 0.625;
-        private static final double OF_CHANNEL = 0.375;
-        private static final double BEFORE_CLOCK = 0.25;
-        private static final double NEVER = -1;
+        // All times are whole eighths, and counted in these.
+        private static final int EIGHTHS = 8;
+        private static final int OF_REGISTER = 4;
+        private static final int OF_TABLE = 5;
+        private static final int OF_CHANNEL = 3;
+        private static final int BEFORE_CLOCK = 2;
+        private static final int NEVER = -1;
 
         private final Tiles tiles;
-        private final double[] outletAt;
+        private final int[] outletAt;
         private final boolean[] known;
 
         Timing(Tiles tiles) {
             this.tiles = tiles;
-            outletAt = new double[TILES];
+            outletAt = new int[TILES];
             known = new boolean[TILES];
         }
 
@@ -1095,17 +1097,17 @@ public final class TileArray {
             if (!timeOutlets()) {
                 return -1;
             }
-            double longest = 0;
+            int longest = 0;
             for (int tile = 0; tile < TILES; tile++) {
-                double pins = latestPin(tile);
-                if (tiles.hasRegister(tile) && pins >= 0) {
-                    longest = later(longest, pins + OF_TABLE + BEFORE_CLOCK);
+                int pins = latestPin(tile);
+                if (tiles.hasRegister(tile) && pins != NEVER) {
+                    longest = Math.max(longest, pins + OF_TABLE + BEFORE_CLOCK);
                 }
             }
             for (int o = 0; o < OUTPUTS; o++) {
-                longest = later(longest, arrival(TILE_PINS + o));
+                longest = Math.max(longest, arrival(TILE_PINS + o));
             }
-            return longest;
+            return (double) longest / EIGHTHS;
         }
 
         /** Times each outlet behind those that it waits for; false if some wait in a ring. */
@@ -1119,7 +1121,7 @@ public final class TileArray {
             for (int round = 0; round < TILES && left > 0; round++) {
                 for (int tile = 0; tile < TILES; tile++) {
                     if (!known[tile] && pinsAreKnown(tile)) {
-                        outletAt[tile] = OF_TABLE + later(0, latestPin(tile));
+                        outletAt[tile] = OF_TABLE + Math.max(0, latestPin(tile));
                         known[tile] = true;
                         left--;
                     }
@@ -1139,26 +1141,22 @@ public final class TileArray {
         }
 
         /** When the last pin of a tile is there; NEVER if none gets something. */
-        private double latestPin(int tile) {
-            double latest = NEVER;
+        private int latestPin(int tile) {
+            int latest = NEVER;
             for (int pin = 0; pin < PINS; pin++) {
-                latest = later(latest, arrival(tile * PINS + pin));
+                latest = Math.max(latest, arrival(tile * PINS + pin));
             }
             return latest;
         }
 
         /** When the end of a way is there; NEVER if it gets nothing. */
-        private double arrival(int way) {
+        private int arrival(int way) {
             int from = tiles.originOf(way);
             if (from < 0) {
                 return NEVER;
             }
-            double start = from < TILES ? outletAt[from] : 0;
+            int start = from < TILES ? outletAt[from] : 0;
             return start + OF_CHANNEL * tiles.lengthOf(way);
-        }
-
-        private static double later(double a, double b) {
-            return a >= b ? a : b;
         }
     }
 }

@@ -7,11 +7,19 @@ final class Due {
     static final int WEST = 6;
 
     private final String test;
+    private String sentence = "";
+    private int sentences;
     private int checks;
     private int wrong;
 
     Due(String test) {
         this.test = test;
+    }
+
+    /** Names the sentence of the document that the next answers are about. */
+    void sentence(String words) {
+        sentence = " [" + words + "]";
+        sentences++;
     }
 
     void is(String call, long got, long due) {
@@ -26,9 +34,15 @@ final class Due {
         note(call, got == due, Boolean.toString(got), Boolean.toString(due));
     }
 
+    void is(String call, String got, String due) {
+        note(call, got.equals(due), got, due);
+    }
+
     /** Ends the test: with exit code 1 if an answer was wrong, or none was asked for. */
     void end() {
-        System.out.println(test + ": " + checks + " answers, " + wrong + " of them wrong");
+        String about = sentences > 0 ? " about " + sentences + " sentences" : "";
+        System.out.println(test + ": " + checks + " answers" + about + ", " + wrong
+                + " of them wrong");
         if (wrong > 0 || checks == 0) {
             System.exit(1);
         }
@@ -42,7 +56,8 @@ final class Due {
         checks++;
         if (!right) {
             wrong++;
-            System.out.println(test + ": " + call + " answered " + got + ", due is " + due);
+            System.out.println(test + ": " + call + " answered " + got + ", due is " + due
+                    + sentence);
         }
     }
 

@@ -29,6 +29,8 @@ public final class LanguageTest {
         due.is("import java.util.Arrays", count(text, "\\bimport java\\.util\\.Arrays;"), 1);
         due.is("static fields that are not final",
                 count(text, "static (?!final|class)\\w+(\\[\\])? \\w+( =|;)"), 0);
+        due.is("constants of other types than rule 5 names", count(text, "static final (?!class "
+                + "|(int|long|boolean|char|String) |(int|long|char|byte)\\[\\] )"), 0);
         due.is("few classes", count(text, "\\bclass \\w+") <= MOST_CLASSES, true);
         methods(due, text);
         due.end();
