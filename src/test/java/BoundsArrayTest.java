@@ -130,7 +130,7 @@ public final class BoundsArrayTest {
                     x.load(output ? tile : next, x.bits(output ? tile : next)
                             | Due.pin(0, output ? 0 : Due.from(Grid.opposite(place))));
                     int got = output ? x.outputOf(tile / 4) : x.pin(next, 0);
-                    due.is("what channel " + place + " of tile " + tile + " at " + setting + " gets",
+                    due.is("what channel " + place + " of tile " + tile + " gets at " + setting,
                             got, channelGets(tile, place, setting));
                 }
             }

@@ -221,7 +221,7 @@ public final class BoundsBitsTest {
             TileArray x = new TileArray();
             x.load(i % 16, i * 5 & 1023);
             int sum = x.checkSum();
-            due.is("checkSum() number " + i + " is within 16 bits", sum >= 0 && sum <= 0xffff, true);
+            due.is("checkSum() number " + i + " has 16 bits", sum >= 0 && sum <= 0xffff, true);
             least = Math.min(least, sum);
             greatest = Math.max(greatest, sum);
         }

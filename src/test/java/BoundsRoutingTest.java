@@ -186,7 +186,8 @@ public final class BoundsRoutingTest {
     }
 
     private static void costOfUse(Due due) {
-        due.sentence("costs 1 + 3 times how many nets that were routed before in this round use it");
+        due.sentence("COSTS 1 + 3 times how many nets that were routed before in this round use"
+                + " it");
         // Input 0 has the wire from tile 4 to tile 8: for input 1 that costs 4, a way round it 3.
         routes(due, "@8 0.0=11 0.2=10", 1, "0 s<w; 4 e<w s<n; 5 s<w; 8 0<e 2<n; 9 w<n");
         routes(due, "@0 0.0=13 o0=11", 1, "0 0<e e<s; 1 e<w w<s; 2 e<w; 3 e<w; 4 n<w e<s; 5 n<w;"

@@ -1,4 +1,4 @@
-/** The array as the document draws it, written out: what lies beside a tile, what comes in to it. */
+/** The array as the document draws it: what lies beside a tile, and what comes in to it. */
 final class Grid {
     static final int TILES = 16;
     static final int PLACES = 8;
