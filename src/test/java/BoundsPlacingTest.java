@@ -223,8 +223,8 @@ public final class BoundsPlacingTest {
     }
 
     /**
-     * Fourteen passes exchange something: more were found in no circuit, so that no test can tell
-     * the limit of 20 from one of 14, or from none.
+     * Fourteen passes exchange something: more were found in no circuit, so that no answer tells
+     * the limit of 20 from one of 14, or from none; LimitsTest looks it up in the class.
      */
     private static void fourteenPasses(Due due) {
         due.sentence("or 20 were made");
